@@ -47,15 +47,13 @@ public final class StillLoops {
     private static final long I_MOST = 1000000000000L;
     private static final int STUCK_MOST = 50;
 
-    private final byte[] tape = new byte[TAPE_MOST];
-    private int taped = 0;
+    private final Reader reader = new Reader();
     private int firstWrong = NONE;
     private final Bench now = new Bench();
     private final Bench kept = new Bench();
     private boolean isKept = false;
-    /** What is tried out without staying: a text that may be wrong, and all that is AHEAD. */
+    /** Where all that is AHEAD goes on, so that nothing of it stays. */
     private final Bench trial = new Bench();
-    private final Reader reader = new Reader(tape, trial);
     private final Twin floating = new Twin();
     /** Made when it is first asked for: its rows are by far the largest part of an object. */
     private Rounds rounds = null;
@@ -64,44 +62,35 @@ public final class StillLoops {
     }
 
     public int feed(int a, int b, int c, int d, int e) {
-        if (taped + 20 > TAPE_MOST) {
+        if (reader.taped + 20 > TAPE_MOST) {
             return NONE;
         }
-        addBytes(a);
-        addBytes(b);
-        addBytes(c);
-        addBytes(d);
-        addBytes(e);
-        return taped;
-    }
-
-    private void addBytes(int number) {
-        for (int shift = 24; shift >= 0 && taped < TAPE_MOST; shift -= 8) {
-            tape[taped] = (byte) (number >> shift);
-            taped++;
-        }
+        reader.append(a);
+        reader.append(b);
+        reader.append(c);
+        reader.append(d);
+        reader.append(e);
+        return reader.taped;
     }
 
     public boolean end(int n) {
-        if (n < 0 || n > taped) {
+        if (n < 0 || n > reader.taped) {
             return false;
         }
-        taped = n;
+        reader.taped = n;
         return true;
     }
 
     public int bench() throws IllegalArgumentException, UnsupportedOperationException {
-        int length = taped;
-        taped = 0;
-        trial.copyFrom(now);
-        firstWrong = reader.read(length);
+        reader.draft.copyFrom(now);
+        firstWrong = reader.read();
         if (firstWrong != NONE) {
             throw new IllegalArgumentException();
         }
         if (now.texts >= TEXTS_MOST) {
             throw new UnsupportedOperationException();
         }
-        now.copyFrom(trial);
+        now.copyFrom(reader.draft);
         now.texts++;
         return now.texts;
     }
@@ -544,7 +533,7 @@ public final class StillLoops {
     }
 
     private static long within(long number, long least, long most) {
-        return Math.max(least, Math.min(most, number));
+        return number < least ? least : number > most ? most : number;
     }
 
     private static double bounded(double number, double least, double most) {
@@ -757,7 +746,7 @@ public final class StillLoops {
     }
 
     /** What a RELAY test has. */
-    private static final class Test {
+    private static final class RelayTest {
         static final int LAST_UP = 4;
         static final int OLDEST = 240;
 
@@ -802,7 +791,7 @@ public final class StillLoops {
             return (int) Math.min(VALUE_MOST, 59244544L * d / (355 * swing));
         }
 
-        void copyFrom(Test other) {
+        void copyFrom(RelayTest other) {
             d = other.d;
             h = other.h;
             middle = other.middle;
@@ -823,7 +812,7 @@ public final class StillLoops {
         final Plant plant = new Plant();
         final Valve valve = new Valve();
         final Law law = new Law();
-        final Test test = new Test();
+        final RelayTest test = new RelayTest();
         int on;
         int mode;
         int sp;
@@ -919,8 +908,8 @@ public final class StillLoops {
         /** One TICK of the RELAY test: whether it ended. */
         boolean relayEnds() {
             boolean up = test.turn(plant.y, sp - plant.pv());
-            boolean ends = test.age >= Test.OLDEST;
-            if (up && test.ups >= Test.LAST_UP) {
+            boolean ends = test.age >= RelayTest.OLDEST;
+            if (up && test.ups >= RelayTest.LAST_UP) {
                 ends = true;
                 tu = test.since;
                 ku = test.reckonKu();
@@ -1146,7 +1135,8 @@ public final class StillLoops {
                     shutDown(k, cause);
                     tripped++;
                 }
-                act(k);
+                measure(k);
+                drive(k);
             }
             // A LOOP is ON a lesser one, so what it feeds back has not moved yet when that one asks.
             for (int k = 0; k < size; k++) {
@@ -1187,7 +1177,8 @@ public final class StillLoops {
             log.add(tick, k, LOG_TRIP, cause);
         }
 
-        private void act(int k) {
+        /** SP, the SET in use and the rate by PV: (2) and (3) of a TICK. */
+        private void measure(int k) {
             Loop l = loops[k];
             if (l.mode == CASCADE) {
                 takeSp(l);
@@ -1196,12 +1187,9 @@ public final class StillLoops {
                 log.add(tick, k, LOG_SET, l.set);
             }
             l.filterRate();
-            drive(k);
-            l.stuck = l.at == 0 ? 0 : Math.min(STUCK_MOST, l.stuck + 1);
-            l.valve.moveTo(l.out);
         }
 
-        /** OUT, AT and I by the MODE: (4) of a TICK. */
+        /** OUT, AT, I and POS by the MODE: (4) and (5) of a TICK. */
         private void drive(int k) {
             Loop l = loops[k];
             force[k] = 0;
@@ -1209,14 +1197,16 @@ public final class StillLoops {
             int followed = followedOf(k);
             if ((l.mode == AUTO || l.mode == CASCADE) && followed == NONE) {
                 rule(k);
-                return;
+            } else {
+                if (followed != NONE) {
+                    l.out = l.valve.limited(loops[followed].sp);
+                } else if (l.mode == RELAY && l.relayEnds()) {
+                    log.add(tick, k, LOG_RELAY, l.ku);
+                }
+                l.balance();
             }
-            if (followed != NONE) {
-                l.out = l.valve.limited(loops[followed].sp);
-            } else if (l.mode == RELAY && l.relayEnds()) {
-                log.add(tick, k, LOG_RELAY, l.ku);
-            }
-            l.balance();
+            l.stuck = l.at == 0 ? 0 : Math.min(STUCK_MOST, l.stuck + 1);
+            l.valve.moveTo(l.out);
         }
 
         /** The last case of (4): the LOOP reckons OUT itself. */
@@ -1240,24 +1230,29 @@ public final class StillLoops {
         }
     }
 
-    /** Reads one text of THE BENCH into a bench; behind the first wrong thing nothing more is read. */
+    /** The TAPE, and how a text on it is read into a draft; behind the first wrong thing nothing more is read. */
     private static final class Reader {
-        private final byte[] text;
-        private final Bench bench;
+        final Bench draft = new Bench();
+        int taped = 0;
+        private final byte[] text = new byte[TAPE_MOST];
         private int length = 0;
         private int at = 0;
         /** Where the latest thing that was read begins. */
         private int begin = 0;
         private int wrong = NONE;
 
-        Reader(byte[] text, Bench bench) {
-            this.text = text;
-            this.bench = bench;
+        /** The four bytes of a number, the highest first. */
+        void append(int number) {
+            for (int shift = 24; shift >= 0 && taped < TAPE_MOST; shift -= 8) {
+                text[taped] = (byte) (number >> shift);
+                taped++;
+            }
         }
 
-        /** The first wrong byte of the text's first bytes, so many; NONE without. */
-        int read(int bytes) {
-            length = Math.min(bytes, text.length);
+        /** Uses the TAPE up: the first wrong byte; NONE without. */
+        int read() {
+            length = taped;
+            taped = 0;
             at = 0;
             wrong = NONE;
             skipBlanks();
@@ -1297,11 +1292,11 @@ public final class StillLoops {
         }
 
         private void readLoop() {
-            if (bench.size >= LOOPS_MOST) {
+            if (draft.size >= LOOPS_MOST) {
                 refuse(begin);
                 return;
             }
-            Loop l = bench.loops[bench.size];
+            Loop l = draft.loops[draft.size];
             l.clear();
             l.plant.kind = readKind();
             l.plant.gain = numberBehind("gain", 999);
@@ -1314,9 +1309,9 @@ public final class StillLoops {
                 l.plant.late = number(0, 8);
             }
             if (takes("on")) {
-                l.on = number(0, bench.size - 1);
+                l.on = number(0, draft.size - 1);
             }
-            bench.size++;
+            draft.size++;
         }
 
         private int readKind() {
@@ -1383,22 +1378,22 @@ public final class StillLoops {
         }
 
         private void readEvent() {
-            if (bench.events.size >= EVENTS_MOST) {
+            if (draft.events.size >= EVENTS_MOST) {
                 refuse(begin);
                 return;
             }
-            int time = number(bench.tick, VALUE_MOST);
+            int time = number(draft.tick, VALUE_MOST);
             int what = readWhat();
-            int loop = number(0, bench.size - 1);
+            int loop = number(0, draft.size - 1);
             int number = 0;
             if (what == EVENT_SET) {
                 number = signed(-VALUE_MOST, VALUE_MOST);
             } else if (what == EVENT_LOAD) {
                 number = signed(-LOAD_MOST, LOAD_MOST);
             } else if (what == EVENT_MODE && wrong == NONE) {
-                number = readMode(bench.loops[loop]);
+                number = readMode(draft.loops[loop]);
             }
-            bench.events.add(time, what, loop, number);
+            draft.events.add(time, what, loop, number);
         }
 
         private int readWhat() {
@@ -1434,8 +1429,8 @@ public final class StillLoops {
 
         /** null where no LOOP that there is was told. */
         private Loop readKnownLoop() {
-            int k = number(0, bench.size - 1);
-            return wrong == NONE ? bench.loops[k] : null;
+            int k = number(0, draft.size - 1);
+            return wrong == NONE ? draft.loops[k] : null;
         }
 
         private void refuse(int where) {

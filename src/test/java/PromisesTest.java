@@ -49,6 +49,7 @@ public final class PromisesTest {
         lose();
         relay();
         relayInTicks();
+        relayMeasures();
         tune();
         bump();
         round();
@@ -64,6 +65,7 @@ public final class PromisesTest {
         event();
         log();
         imageAndBack();
+        toldAnew();
         count();
         System.out.println(checks + " checks of promises, " + wrong + " of them wrong");
         System.exit(wrong > 0 ? 1 : 0);
@@ -118,16 +120,16 @@ public final class PromisesTest {
         x.end(bytes.length);
     }
 
-    private static void tell(StillLoops x, String text) {
-        tape(x, text);
-        x.bench();
+    private static void tell(StillLoops x, String... texts) {
+        for (String text : texts) {
+            tape(x, text);
+            x.bench();
+        }
     }
 
     private static StillLoops told(String... texts) {
         StillLoops x = new StillLoops();
-        for (String text : texts) {
-            tell(x, text);
-        }
+        tell(x, texts);
         return x;
     }
 
@@ -179,6 +181,11 @@ public final class PromisesTest {
         due("an x", ARGUMENT, x::bench);
         due("an x at 4", 4, x::fault);
         due("used up", 0, () -> bit(x.end(1)));
+        promise = 2;
+        tape(x, " ".repeat(381));
+        due("401 would be too many", NONE, () -> x.feed(0, 0, 0, 0, 0));
+        x.end(380);
+        due("400 are not", 400, () -> x.feed(0, 0, 0, 0, 0));
     }
 
     private static void bench() {
@@ -849,6 +856,44 @@ public final class PromisesTest {
         due("a new test: no TU", NONE, () -> x.loop(0, 19));
     }
 
+    private static void relayMeasures() {
+        promise = 20;
+        StillLoops x = told("loop level gain 2 tau 0 low -355 high 355;curve 0 0 512");
+        x.load(0, -2);
+        x.relay(0, 355, 15);
+        x.ticks(60);
+        x.ticks(60);
+        // Y goes by 512 from -4096 to 4096 and back: 2 to the 19 times 113 by 8192.
+        due("not yet", NONE, () -> x.loop(0, 18));
+        x.ticks(60);
+        due("KU", 7232, () -> x.loop(0, 18));
+        due("TU", 32, () -> x.loop(0, 19));
+        StillLoops y = told("loop level gain 1 tau 0 low -999 high 999");
+        y.out(0, 999);
+        y.ticks(40);
+        y.out(0, 0);
+        y.ticks(1);
+        due("Y at first", 39960, () -> y.inner(0, 0));
+        due("far above SP", -1, () -> y.relay(0, 999, 0));
+        y.image();
+        y.ticks(57);
+        // Below 0 after 41 ticks; the swings behind that go from -999 to 999 and are all that counts.
+        due("KU: 59244544 * 999 by (355 * 1998)", 9999, () -> y.loop(0, 18));
+        due("ended", 0, () -> y.loop(0, 8));
+        y.back();
+        due("back in the test", 3, () -> y.loop(0, 8));
+        y.ticks(50);
+        y.image();
+        y.ticks(7);
+        long ku = y.loop(0, 18);
+        long tu = y.loop(0, 19);
+        y.relay(0, 1, 0);
+        y.back();
+        y.ticks(7);
+        due("an image has what the test has: KU", ku, () -> y.loop(0, 18));
+        due("an image has what the test has: TU", tu, () -> y.loop(0, 19));
+    }
+
     private static StillLoops tested() {
         StillLoops x = told("loop level gain 256 tau 0 low -10 high 10");
         x.relay(0, 5, 2);
@@ -945,6 +990,12 @@ public final class PromisesTest {
         StillLoops late = told("loop level gain 256 tau 0 low 0 high 999 late 1;law 0 filter 0");
         late.out(0, 51);
         due("M and N would be 201", NONE, () -> late.round(false));
+        StillLoops stuck = told("loop lag gain 0 tau 0 low 0 high 10;gains 0 kp 256 ki 0 kd 0;law 0 back 0");
+        stuck.mode(0, 1);
+        stuck.set(0, 22);
+        // 50 ticks at the limit, then it trips; I is balanced in the same tick, and all is still.
+        due("STUCK alone grows: M", 51, () -> stuck.round(false));
+        due("STUCK alone grows: N", 1, () -> stuck.round(true));
         StillLoops e = new StillLoops();
         due("no loops: M", 0, () -> e.round(false));
         due("no loops: N", 1, () -> e.round(true));
@@ -1016,10 +1067,16 @@ public final class PromisesTest {
         due("down: not beyond", 0, () -> y.step(0, -3, 0));
         due("down: never", NONE, () -> y.step(0, -3, 1));
         due("down: sum", 800, () -> y.step(0, -3, 3));
-        y.set(0, -394);
-        due("50 times 8 is no more than 409", 1, () -> y.step(0, 409, 2));
-        y.set(0, -395);
-        due("50 times 8 is 400", 1, () -> y.step(0, 410, 2));
+        y.set(0, 6);
+        due("by 1: meets", 1, () -> y.step(0, 1, 1));
+        due("by -1: never", NONE, () -> y.step(0, -1, 1));
+        y.set(0, 8);
+        due("by -1: meets", 1, () -> y.step(0, -1, 1));
+        y.set(0, 10);
+        due("by -1: beyond", 2, () -> y.step(0, -1, 0));
+        due("by 1: not beyond", 0, () -> y.step(0, 1, 0));
+        y.set(0, -385);
+        due("50 times 8 is 400", 1, () -> y.step(0, 400, 2));
         y.set(0, -384);
         due("50 times 8 is more than 399", NONE, () -> y.step(0, 399, 2));
         y.set(0, 9990);
@@ -1227,6 +1284,52 @@ public final class PromisesTest {
         due("once more", 1, () -> bit(x.back()));
         due("fault stays", 12, x::fault);
         due("tick", 2, () -> x.count(2));
+    }
+
+    /** A LOOP that was gone back behind and is told anew has nothing of the old one. */
+    private static void toldAnew() {
+        promise = 36;
+        StillLoops x = told("");
+        x.image();
+        tell(x, "loop slow gain 9 tau 1 low -100 high 100 late 3;gains 0 from 1 kp 1 ki 1 kd 1;curve 0 5 6 7",
+                "law 0 b 1 c 2 filter 3 back 4 stick 5 hyst 6");
+        x.load(0, 5);
+        x.out(0, 90);
+        x.relay(0, 1, 0);
+        x.ticks(60);
+        x.mode(0, 1);
+        x.set(0, 9000);
+        x.lose(0, true);
+        x.ticks(1);
+        x.mode(0, 1);
+        x.lose(0, false);
+        x.ticks(30);
+        x.lose(0, true);
+        x.back();
+        due("no loop", 0, () -> x.count(0));
+        tell(x, "loop slow gain 9 tau 1 low 5 high 100");
+        long[] loop = {2, 9, 1, 0, 0, 5, 100, NONE, 0, 0, 0, 5, 5, 0, 1, 0, 0, 0, NONE, NONE, 0};
+        long[] weight = {256, 0, 2, 64, 0, 0};
+        for (int what = 0; what < loop.length; what++) {
+            int w = what;
+            due("loop " + what, loop[what], () -> x.loop(0, w));
+        }
+        for (int what = 0; what < weight.length; what++) {
+            int w = what;
+            due("weight " + what, weight[what], () -> x.weight(0, w));
+            due("inner " + what, what < 5 ? 0 : 1001310588928L, () -> x.inner(0, w));
+        }
+        due("trips", NONE, () -> x.trip(0, 0));
+        due("kp", 256, () -> x.gain(0, 0, 1));
+        due("ki", 64, () -> x.gain(0, 0, 2));
+        due("kd", 0, () -> x.gain(0, 0, 3));
+        tell(x, "loop level gain 1 tau 0 low -9 high 9 late 8");
+        x.ticks(8);
+        due("feeds", 0, () -> x.inner(1, 0));
+        x.back();
+        tell(x, "loop level gain 256 tau 0 low 0 high 9 late 8");
+        x.ticks(60);
+        due("feeds", 0, () -> x.inner(0, 0));
     }
 
     private static void count() {
