@@ -1216,7 +1216,7 @@ public final class StillLoops {
             long v = s >> 16;
             force[k] = Math.abs(s);
             l.out = l.valve.limited(v);
-            l.at = Long.compare(v, l.out);
+            l.at = v > l.valve.high ? 1 : v < l.valve.low ? -1 : 0;
             long e = (long) l.law.ki[l.set] * (l.sp - l.plant.pv()) + 256L * l.law.back * (l.out - v);
             if (e != 0 && !heldAt(k, e > 0 ? 1 : -1)) {
                 l.keepI(l.i + e);

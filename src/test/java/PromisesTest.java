@@ -682,6 +682,13 @@ public final class PromisesTest {
         due("found", 0, () -> x.loop(1, 17));
         due("auto", 1, () -> x.loop(1, 8));
         due("all gone", 0, () -> x.count(3));
+        StillLoops y = told(LAG + ";at 0 lost 0;at 0 mode 0 auto;at 3 mode 0 auto");
+        due("trips once, and once more", 2, () -> y.ticks(10));
+        StillLoops z = told(LAG + ";at 1 mode 0 auto");
+        z.relay(0, 1, 0);
+        z.ticks(2);
+        due("an event ends a test as by hand: one row", 1, () -> z.count(4));
+        due("the mode", 1, () -> z.log(0, 2));
     }
 
     private static void mode() {
@@ -1305,6 +1312,10 @@ public final class PromisesTest {
         x.lose(0, false);
         x.ticks(30);
         x.lose(0, true);
+        x.ticks(1);
+        x.mode(0, 1);
+        x.ticks(1);
+        tell(x, "law 0");
         x.back();
         due("no loop", 0, () -> x.count(0));
         tell(x, "loop slow gain 9 tau 1 low 5 high 100");
@@ -1323,11 +1334,18 @@ public final class PromisesTest {
         due("kp", 256, () -> x.gain(0, 0, 1));
         due("ki", 64, () -> x.gain(0, 0, 2));
         due("kd", 0, () -> x.gain(0, 0, 3));
-        tell(x, "loop level gain 1 tau 0 low -9 high 9 late 8");
-        x.ticks(8);
-        due("feeds", 0, () -> x.inner(1, 0));
+        x.out(0, 9);
+        x.ticks(9);
+        x.lose(0, true);
+        x.set(0, 100);
+        x.mode(0, 1);
+        x.lose(0, false);
+        x.ticks(3);
+        tell(x, "law 0");
         x.back();
         tell(x, "loop level gain 256 tau 0 low 0 high 9 late 8");
+        due("mode", 0, () -> x.loop(0, 8));
+        due("SP", 0, () -> x.loop(0, 9));
         x.ticks(60);
         due("feeds", 0, () -> x.inner(0, 0));
     }
