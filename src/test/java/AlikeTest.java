@@ -57,6 +57,9 @@ public final class AlikeTest {
     private void go() throws Exception {
         int calls = 20 + roll(100);
         text(goodText(true));
+        if (roll(3) > 0) {
+            rouse();
+        }
         for (int k = 0; k < calls && alike; k++) {
             int kind = roll(20);
             if (kind < 2) {
@@ -67,9 +70,23 @@ public final class AlikeTest {
                 call("mode", roll(loops + 1), roll(3));
             } else if (kind < 9 && loops > 0) {
                 call("relay", roll(loops), 1 + roll(10), roll(3));
+            } else if (kind < 11) {
+                call("twin", roll(61));
+            } else if (kind < 12 && roll(4) == 0) {
+                rouse();
             } else {
                 any();
             }
+        }
+    }
+
+    /** All loops into AUTO, or CASCADE where that can be. */
+    private void rouse() throws Exception {
+        for (int k = 0; k < loops; k++) {
+            if (due.loop(k, 8) != 2) {
+                call("set", k, roll(21) - 10);
+            }
+            call("mode", k, due.loop(k, 7) == StillLoops.NONE || roll(4) == 0 ? 1 : 2);
         }
     }
 

@@ -57,6 +57,7 @@ public final class PromisesTest {
         starts();
         step();
         twin();
+        twinOfMany();
         ahead();
         peak();
         hunts();
@@ -274,6 +275,12 @@ public final class PromisesTest {
         faultAt(x, "law", 3);
         faultAt(x, "law  ", 5);
         faultAt(x, "lawn 0", 0);
+        faultAt(x, "lawz 0", 0);
+        faultAt(x, "lawa 0", 0);
+        faultAt(x, "law{ 0", 3);
+        faultAt(x, "law` 0", 3);
+        faultAt(x, "law /", 4);
+        faultAt(x, "law :", 4);
         faultAt(x, "  Law 0", 2);
         faultAt(x, "law 0 c 5 b 3", 10);
         faultAt(x, "law 0 b 5 b 3", 10);
@@ -300,7 +307,10 @@ public final class PromisesTest {
         faultAt(x, "curve 0 5 6 law", 12);
         faultAt(x, "curve 0 1 2 3 4 5 6 7 8 9", 24);
         faultAt(x, "curve 0 1 2 3 4 5 6 7 8", NONE);
+        faultAt(x, "curve 0 1000 1", 8);
         faultAt(x, "curve 0 1 1000", 10);
+        faultAt(x, "curve 0 1 2 1000", 12);
+        faultAt(x, "curve 0 999 999 999", NONE);
         faultAt(x, "at 0 lost", 9);
         faultAt(x, "at 0 lost 0 5", 12);
         faultAt(x, "at 0 go 0", 5);
@@ -478,6 +488,14 @@ public final class PromisesTest {
         promise = 10;
         due("its own cause comes first", 0, () -> x.trip(2, 0));
         due("nothing behind it", NONE, () -> x.trip(2, 1));
+        due("the third one's are as they were", 1, () -> x.trip(3, 2));
+        x.mode(3, 2);
+        x.lose(3, true);
+        x.ticks(1);
+        due("lost on one with trips", 0, () -> x.trip(3, 0));
+        due("not by that one", NONE, () -> x.trip(3, 1));
+        tell(x, "law 0");
+        due("a text leaves trips", 0, () -> x.trip(3, 0));
     }
 
     private static void tripByStuck() {
@@ -710,6 +728,20 @@ public final class PromisesTest {
         due("was cascade", 2, () -> x.mode(1, 1));
         due("SP stays", 30, () -> x.loop(1, 9));
         due("back to manual", 1, () -> x.mode(1, 0));
+        StillLoops y = told("loop lag gain 0 tau 0 low 0 high 10;law 0 back 0");
+        y.mode(0, 1);
+        y.set(0, 99);
+        y.ticks(5);
+        due("at its limit", 1, () -> y.loop(0, 15));
+        tell(y, "law 0");
+        due("a text leaves AT", 1, () -> y.loop(0, 15));
+        due("a text leaves STUCK", 5, () -> y.loop(0, 16));
+        y.image();
+        y.mode(0, 0);
+        due("AT is 0 by that", 0, () -> y.loop(0, 15));
+        due("STUCK is 0 by that", 0, () -> y.loop(0, 16));
+        y.back();
+        due("an image has AT", 1, () -> y.loop(0, 15));
         due("on none", STATE, () -> x.mode(0, 2));
         due("3", ARGUMENT, () -> x.mode(0, 3));
         due("-1", ARGUMENT, () -> x.mode(0, -1));
@@ -983,6 +1015,9 @@ public final class PromisesTest {
         due("swings: M, by nine feeds", 9, () -> x.round(false));
         due("swings: N", 2, () -> x.round(true));
         due("nothing stays", 0, () -> x.count(2));
+        x.ticks(9);
+        due("in it already: M", 0, () -> x.round(false));
+        due("in it already: N", 2, () -> x.round(true));
         StillLoops y = told("loop level gain 1 tau 0 low 0 high 10");
         y.out(0, 1);
         due("fills up for too long", NONE, () -> y.round(false));
@@ -1014,6 +1049,19 @@ public final class PromisesTest {
         due("at rest", 0, () -> x.sweep(0));
         x.load(0, 3);
         due("swings from 0 to 3", 3, () -> x.sweep(0));
+        x.ticks(9);
+        due("from 3 on", 3, () -> x.sweep(0));
+        x.ticks(1);
+        due("from 0 on", 3, () -> x.sweep(0));
+        StillLoops z = swinging();
+        z.load(0, 3);
+        z.ticks(1);
+        z.load(0, 0);
+        due("swings from -3 to 3", 6, () -> z.sweep(0));
+        z.ticks(13);
+        due("swings from -3 to 3", 6, () -> z.sweep(0));
+        z.ticks(1);
+        due("swings from -3 to 3", 6, () -> z.sweep(0));
         due("no loop", INDEX, () -> x.sweep(1));
         due("no loop", INDEX, () -> x.sweep(-1));
         StillLoops y = told("loop level gain 1 tau 0 low 0 high 10");
@@ -1112,6 +1160,30 @@ public final class PromisesTest {
         due("no gap yet", 0, () -> y.twin(1));
         due("half", 500, () -> y.twin(2));
         due("nothing stays", 0, () -> y.count(2));
+    }
+
+    private static void twinOfMany() {
+        promise = 27;
+        String plain = "loop lag gain 256 tau 0 low -10 high 10";
+        StillLoops x = told(plain + ";" + plain + " on 0;gains 1 kp 128 ki 0 kd 0;law 1 back 0",
+                "gains 0 kp 0 ki 8192 kd 0;law 0 back 0");
+        x.mode(1, 2);
+        x.mode(0, 1);
+        x.set(0, 4);
+        // OUT of 0 is 0, then 0.5 there and 0 here; SP of 1 goes with it, and half of that is OUT of 1.
+        due("no gap yet", 0, () -> x.twin(1));
+        due("in cascade: a quarter", 250, () -> x.twin(2));
+        x.mode(1, 1);
+        x.set(1, 6);
+        due("following: P of 1 is 3 on both sides", 0, () -> x.twin(1));
+        x.set(1, 7);
+        due("following: 3.5 there", 500, () -> x.twin(1));
+        StillLoops y = told(plain + ";gains 0 kp 0 ki 8192 kd 0;law 0 back 0 stick 2");
+        y.mode(0, 1);
+        y.set(0, 4);
+        // OUT grows by a half there: 2 apart stick, 2.5 do not; here 2 is OUT then, and 3 at the next but one.
+        due("sticks", 0, () -> y.twin(5));
+        due("no more", 2500, () -> y.twin(6));
     }
 
     private static void ahead() {
