@@ -907,30 +907,39 @@ public final class PromisesTest {
         x.ticks(60);
         due("KU", 7232, () -> x.loop(0, 18));
         due("TU", 32, () -> x.loop(0, 19));
-        StillLoops y = told("loop level gain 1 tau 0 low -999 high 999");
-        y.out(0, 999);
-        y.ticks(40);
-        y.out(0, 0);
-        y.ticks(1);
-        due("Y at first", 39960, () -> y.inner(0, 0));
-        due("far above SP", -1, () -> y.relay(0, 999, 0));
-        y.image();
-        y.ticks(57);
-        // Below 0 after 41 ticks; the swings behind that go from -999 to 999 and are all that counts.
-        due("KU: 59244544 * 999 by (355 * 1998)", 9999, () -> y.loop(0, 18));
-        due("ended", 0, () -> y.loop(0, 8));
-        y.back();
-        due("back in the test", 3, () -> y.loop(0, 8));
-        y.ticks(50);
-        y.image();
-        y.ticks(7);
-        long ku = y.loop(0, 18);
-        long tu = y.loop(0, 19);
-        y.relay(0, 1, 0);
-        y.back();
-        y.ticks(7);
-        due("an image has what the test has: KU", ku, () -> y.loop(0, 18));
-        due("an image has what the test has: TU", tu, () -> y.loop(0, 19));
+        relayFromAfar(40);
+        relayFromAfar(-40);
+    }
+
+    /** Only what is behind the third up counts, however far away the test began. */
+    private static void relayFromAfar(int out) {
+        StillLoops x = told("loop level gain 999 tau 0 low -40 high 40");
+        x.out(0, out);
+        x.ticks(1);
+        x.out(0, 0);
+        due("Y at first", 999 * out, () -> x.inner(0, 0));
+        due("side", out > 0 ? -1 : 1, () -> x.relay(0, 1, 3));
+        x.image();
+        int age = 0;
+        while (x.loop(0, 8) == 3 && age < 240) {
+            x.ticks(1);
+            age++;
+        }
+        due("KU", 55, () -> x.loop(0, 18));
+        due("TU", 6, () -> x.loop(0, 19));
+        x.back();
+        for (int t = 2; t < age; t++) {
+            x.ticks(1);
+        }
+        x.image();
+        x.ticks(2);
+        x.relay(0, 40, 0);
+        x.ticks(3);
+        x.back();
+        due("back in the test", 3, () -> x.loop(0, 8));
+        x.ticks(2);
+        due("an image has what the test has: KU", 55, () -> x.loop(0, 18));
+        due("an image has what the test has: TU", 6, () -> x.loop(0, 19));
     }
 
     private static StillLoops tested() {
