@@ -195,9 +195,9 @@ public final class StillLoops {
         int tripped = 0;
         for (int t = 0; t < n; t++) {
             now.happen();
-            tripped += now.advance();
+            tripped |= now.advance();
         }
-        return tripped;
+        return Integer.bitCount(tripped);
     }
 
     public int mode(int loop, int mode)
@@ -1125,7 +1125,7 @@ public final class StillLoops {
             }
         }
 
-        /** A TICK without (a): how many LOOPS TRIPPED in it. */
+        /** A TICK without (a): the LOOPS that TRIPPED in it, as bits. */
         int advance() {
             int tripped = 0;
             for (int k = 0; k < size; k++) {
@@ -1133,7 +1133,7 @@ public final class StillLoops {
                 tripping[k] = cause != NONE;
                 if (cause != NONE) {
                     shutDown(k, cause);
-                    tripped++;
+                    tripped |= 1 << k;
                 }
                 measure(k);
                 drive(k);

@@ -149,7 +149,7 @@ final class Oracle {
             }
         }
 
-        int tick(boolean withEvents) {
+        void tick(boolean withEvents) {
             if (withEvents) {
                 List<int[]> waiting = new ArrayList<>();
                 for (int[] e : events) {
@@ -168,13 +168,12 @@ final class Oracle {
                 }
                 events = waiting;
             }
-            int tripped = 0;
             long[] pvs = new long[loops.size()];
             for (int k = 0; k < loops.size(); k++) {
                 L l = loops.get(k);
                 pvs[k] = l.pv();
                 one(k, l);
-                tripped += trips(k, l) ? 1 : 0;
+                trips(k, l);
                 two(k, l);
                 three(l);
                 four(k, l);
@@ -201,7 +200,6 @@ final class Oracle {
                 l.y = clip(l.y, -YMAX, YMAX);
             }
             tick++;
-            return tripped;
         }
 
         private void one(int k, L l) {
@@ -209,7 +207,7 @@ final class Oracle {
             l.ruled = false;
         }
 
-        private boolean trips(int k, L l) {
+        private void trips(int k, L l) {
             int cause = -1;
             if (l.mode != 0 && l.lost) {
                 cause = 0;
@@ -219,7 +217,7 @@ final class Oracle {
                 cause = 2;
             }
             if (cause < 0) {
-                return false;
+                return;
             }
             l.mode = 0;
             l.at = 0;
@@ -230,7 +228,6 @@ final class Oracle {
             }
             l.trippedNow = true;
             row(k, 2, cause);
-            return true;
         }
 
         private void two(int k, L l) {
@@ -476,11 +473,16 @@ final class Oracle {
 
     public int ticks(int n) {
         arg(n >= 1 && n <= 60);
-        int sum = 0;
+        Set<L> tripped = new HashSet<>();
         for (int t = 0; t < n; t++) {
-            sum += st.tick(true);
+            st.tick(true);
+            for (L l : st.loops) {
+                if (l.trippedNow) {
+                    tripped.add(l);
+                }
+            }
         }
-        return sum;
+        return tripped.size();
     }
 
     private void checkMode(L l, int mode) {

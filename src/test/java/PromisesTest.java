@@ -701,7 +701,8 @@ public final class PromisesTest {
         due("auto", 1, () -> x.loop(1, 8));
         due("all gone", 0, () -> x.count(3));
         StillLoops y = told(LAG + ";at 0 lost 0;at 0 mode 0 auto;at 3 mode 0 auto");
-        due("trips once, and once more", 2, () -> y.ticks(10));
+        due("trips once, and once more: one LOOP", 1, () -> y.ticks(10));
+        due("both are in the log", 4, () -> y.count(4));
         StillLoops z = told(LAG + ";at 1 mode 0 auto");
         z.relay(0, 1, 0);
         z.ticks(2);
