@@ -55,8 +55,7 @@ public final class StillLoops {
     /** Where all that is AHEAD goes on, so that nothing of it stays. */
     private final Bench trial = new Bench();
     private final Twin floating = new Twin();
-    /** Made when it is first asked for: its rows are by far the largest part of an object. */
-    private Rounds rounds = null;
+    private final Rounds rounds = new Rounds();
 
     public StillLoops() {
     }
@@ -290,13 +289,16 @@ public final class StillLoops {
     }
 
     public int round(boolean length) {
-        Rounds found = findRound();
-        return length ? found.length : found.begin;
+        startAt(0, 0);
+        rounds.find(trial, reader.draft);
+        return length ? rounds.length : rounds.begin;
     }
 
     public int sweep(int loop) throws IndexOutOfBoundsException {
         knownLoop(loop);
-        return findRound().sweepOf(loop);
+        startAt(0, 0);
+        rounds.find(trial, reader.draft);
+        return rounds.sweepOf(trial, loop);
     }
 
     public int starts(int loop, int what) throws IndexOutOfBoundsException, NoSuchElementException {
@@ -304,9 +306,13 @@ public final class StillLoops {
         if (what < 0 || what > 4) {
             throw new NoSuchElementException();
         }
-        Rounds tried = madeRounds();
-        tried.tryStarts(now, trial, loop);
-        return tried.tally[what];
+        rounds.clearTally();
+        for (int start = 0; start < Rounds.STARTS; start++) {
+            startAt(loop, 256 * (start - Rounds.STARTS / 2));
+            rounds.find(trial, reader.draft);
+            rounds.tallyFound(trial);
+        }
+        return rounds.tally[what];
     }
 
     public int step(int loop, int size, int what)
@@ -516,20 +522,12 @@ public final class StillLoops {
         }
     }
 
-    private Rounds findRound() {
-        Rounds found = madeRounds();
+    /** Puts two benches where a search for a ROUND begins; between texts the reader's draft is free for that. */
+    private void startAt(int loop, int above) {
         trial.copyFrom(now);
-        found.find(trial);
-        return found;
-    }
-
-    private Rounds madeRounds() {
-        Rounds made = rounds;
-        if (made == null) {
-            made = new Rounds();
-            rounds = made;
-        }
-        return made;
+        Plant plant = trial.loops[loop].plant;
+        plant.y = (int) within((long) plant.y + above, -Y_MOST, Y_MOST);
+        reader.draft.copyFrom(trial);
     }
 
     private static long within(long number, long least, long most) {
@@ -806,8 +804,8 @@ public final class StillLoops {
 
     /** One LOOP, as far as it needs no other one. */
     private static final class Loop {
-        /** How many numbers toldInto writes. */
-        static final int TOLD = 31;
+        /** How many numbers told has. */
+        static final int TOLD = 16 + FEEDS;
 
         final Plant plant = new Plant();
         final Valve valve = new Valve();
@@ -935,33 +933,27 @@ public final class StillLoops {
             return kp;
         }
 
-        /** Writes all that may change AHEAD into a row, from an index on; Y comes first. */
-        void toldInto(long[] row, int from) {
-            row[from] = plant.y;
-            row[from + 1] = i;
-            row[from + 2] = f;
-            row[from + 3] = r;
-            row[from + 4] = plant.z;
-            row[from + 5] = stuck;
-            row[from + 6] = mode;
-            row[from + 7] = sp;
-            row[from + 8] = out;
-            row[from + 9] = valve.pos;
-            row[from + 10] = set;
-            row[from + 11] = at;
-            row[from + 12] = tripsAsNumber();
-            row[from + 13] = ku;
-            row[from + 14] = tu;
-            boolean tested = mode == RELAY;
-            row[from + 15] = tested ? test.side : 0;
-            row[from + 16] = tested ? test.ups : 0;
-            row[from + 17] = tested ? test.age : 0;
-            row[from + 18] = tested ? test.since : 0;
-            row[from + 19] = tested ? test.top : 0;
-            row[from + 20] = tested ? test.bottom : 0;
-            row[from + 21] = tested ? test.middle : 0;
-            for (int k = 0; k < FEEDS; k++) {
-                row[from + 22 + k] = plant.feeds[k];
+        /** All that may change AHEAD, number by number; those that differ the most often come first. */
+        long told(int what) {
+            switch (what) {
+                case 0: return plant.y;
+                case 1: return i;
+                case 2: return f;
+                case 3: return r;
+                case 4: return plant.z;
+                case 5: return stuck;
+                // A test grows older by each TICK and none begins AHEAD: its age stands for all that it has.
+                case 6: return mode == RELAY ? test.age : 0;
+                case 7: return mode;
+                case 8: return sp;
+                case 9: return out;
+                case 10: return valve.pos;
+                case 11: return set;
+                case 12: return at;
+                case 13: return tripsAsNumber();
+                case 14: return ku;
+                case 15: return tu;
+                default: return what >= 16 && what < TOLD ? plant.feeds[what - 16] : 0;
             }
         }
 
@@ -1220,12 +1212,6 @@ public final class StillLoops {
             long e = (long) l.law.ki[l.set] * (l.sp - l.plant.pv()) + 256L * l.law.back * (l.out - v);
             if (e != 0 && !heldAt(k, e > 0 ? 1 : -1)) {
                 l.keepI(l.i + e);
-            }
-        }
-
-        void toldInto(long[] row) {
-            for (int k = 0; k < size; k++) {
-                loops[k].toldInto(row, k * Loop.TOLD);
             }
         }
     }
@@ -1641,90 +1627,116 @@ public final class StillLoops {
         }
     }
 
-    /** Finds the ROUND that a bench comes to, and keeps what was on the way. */
+    /** Finds the ROUND that a bench comes to, with room for one state to look for and one of each ROUND found. */
     private static final class Rounds {
         static final int LAST = 200;
         static final int STARTS = 9;
+        private static final int WIDTH = LOOPS_MOST * Loop.TOLD;
+        /** The row of the state that is looked for; the rows ahead of it are of ROUNDS that are unlike. */
+        private static final int SOUGHT = STARTS;
 
         int begin = NONE;
         int length = NONE;
         final int[] tally = new int[5];
-        private int width = 0;
-        /** What the bench is AHEAD 0, 1, .. */
-        private final long[][] rows = new long[LAST + 1][LOOPS_MOST * Loop.TOLD];
-        /** Of each ROUND that is unlike those ahead of it something that is in it. */
-        private final long[][] marks = new long[STARTS][LOOPS_MOST * Loop.TOLD];
+        private final long[] rows = new long[(STARTS + 1) * WIDTH];
 
-        /** Uses the bench up. */
-        void find(Bench bench) {
-            width = bench.size * Loop.TOLD;
+        /**
+         * Two benches that are alike go on from where they are; if there is a ROUND, both end in it.
+         * What comes next hangs on what is alone, so a state that comes again makes the shortest round there is.
+         */
+        void find(Bench bench, Bench behind) {
             begin = NONE;
-            length = NONE;
-            bench.toldInto(rows[0]);
-            for (int t = 1; t <= LAST && length == NONE; t++) {
-                bench.advance();
-                bench.toldInto(rows[t]);
-                if (alike(rows[t - 1], rows[t])) {
-                    begin = t - 1;
-                    length = 1;
-                }
-            }
+            length = lengthOf(bench);
             if (length == NONE) {
-                findBehindAll();
+                return;
+            }
+            bench.copyFrom(behind);
+            begin = beginOf(bench, behind);
+            if (begin == NONE) {
+                length = NONE;
             }
         }
 
-        /** What comes next hangs on what is alone, so a ROUND that was come to still goes on in the last row. */
-        private void findBehindAll() {
-            for (int t = LAST - 1; t >= 0 && length == NONE; t--) {
-                if (alike(rows[t], rows[LAST])) {
-                    begin = t;
-                    length = LAST - t;
+        /** Looks for a state to come again, and for a later one in its place each time twice as much has gone by. */
+        private int lengthOf(Bench bench) {
+            int since = 0;
+            int next = 1;
+            keep(bench, SOUGHT);
+            for (int t = 1; t <= 2 * LAST; t++) {
+                bench.advance();
+                if (isKept(bench, SOUGHT)) {
+                    return t - since;
+                }
+                if (t == next) {
+                    keep(bench, SOUGHT);
+                    since = t;
+                    next = Math.min(2 * t, LAST);
                 }
             }
-            while (begin > 0 && alike(rows[begin - 1], rows[begin - 1 + length])) {
-                begin--;
+            return NONE;
+        }
+
+        /** One bench goes the length ahead; where the other one first is like it the ROUND begins. */
+        private int beginOf(Bench bench, Bench behind) {
+            for (int t = 0; t < length; t++) {
+                bench.advance();
+            }
+            for (int t = 0; t + length <= LAST; t++) {
+                keep(behind, SOUGHT);
+                if (isKept(bench, SOUGHT)) {
+                    return t;
+                }
+                bench.advance();
+                behind.advance();
+            }
+            return NONE;
+        }
+
+        private void keep(Bench bench, int row) {
+            for (int k = 0; k < bench.size; k++) {
+                int from = row * WIDTH + k * Loop.TOLD;
+                for (int what = 0; what < Loop.TOLD; what++) {
+                    rows[from + what] = bench.loops[k].told(what);
+                }
             }
         }
 
-        private boolean alike(long[] one, long[] other) {
-            for (int k = 0; k < width; k++) {
-                if (one[k] != other[k]) {
-                    return false;
+        private boolean isKept(Bench bench, int row) {
+            for (int k = 0; k < bench.size; k++) {
+                int from = row * WIDTH + k * Loop.TOLD;
+                for (int what = 0; what < Loop.TOLD; what++) {
+                    if (rows[from + what] != bench.loops[k].told(what)) {
+                        return false;
+                    }
                 }
             }
             return true;
         }
 
-        int sweepOf(int loop) {
+        /** Takes a bench that is in the ROUND once round. */
+        int sweepOf(Bench bench, int loop) {
             if (length == NONE) {
                 return NONE;
             }
-            int column = loop * Loop.TOLD;
-            long most = rows[begin][column] >> 8;
-            long least = most;
-            for (int t = begin + 1; t <= begin + length; t++) {
-                long pv = rows[t][column] >> 8;
+            int most = bench.loops[loop].plant.pv();
+            int least = most;
+            for (int t = 0; t < length; t++) {
+                bench.advance();
+                int pv = bench.loops[loop].plant.pv();
                 most = Math.max(most, pv);
                 least = Math.min(least, pv);
             }
-            return (int) (most - least);
+            return most - least;
         }
 
-        void tryStarts(Bench from, Bench trial, int loop) {
-            for (int k = 0; k < 5; k++) {
+        void clearTally() {
+            for (int k = 0; k < tally.length; k++) {
                 tally[k] = 0;
             }
-            for (int start = 0; start < STARTS; start++) {
-                trial.copyFrom(from);
-                Plant plant = trial.loops[loop].plant;
-                plant.y = (int) within(plant.y + 256 * (start - 4), -Y_MOST, Y_MOST);
-                find(trial);
-                tallyFound();
-            }
         }
 
-        private void tallyFound() {
+        /** Counts the ROUND that was found, with a bench that is in it. */
+        void tallyFound(Bench bench) {
             if (length == NONE) {
                 tally[2]++;
                 return;
@@ -1735,19 +1747,21 @@ public final class StillLoops {
                 return;
             }
             tally[1]++;
-            if (!wasMarked()) {
-                System.arraycopy(rows[begin], 0, marks[tally[3]], 0, width);
+            if (!wasFound(bench) && tally[3] < STARTS) {
+                keep(bench, tally[3]);
                 tally[3]++;
             }
         }
 
-        private boolean wasMarked() {
-            for (int k = 0; k < tally[3]; k++) {
-                for (int t = begin; t < begin + length; t++) {
-                    if (alike(marks[k], rows[t])) {
+        /** Takes a bench once round: whether something in its ROUND is in one that was found before. */
+        private boolean wasFound(Bench bench) {
+            for (int t = 0; t < length; t++) {
+                for (int k = 0; k < tally[3]; k++) {
+                    if (isKept(bench, k)) {
                         return true;
                     }
                 }
+                bench.advance();
             }
             return false;
         }

@@ -1,25 +1,5 @@
-import java.nio.charset.StandardCharsets;
-import java.util.NoSuchElementException;
-
 /** Each promise of the document by its number: ordinary inputs, the edges that it names, wrong inputs. */
-public final class PromisesTest {
-    /** A call whose answer, or whose exception, is looked at. */
-    private interface Call {
-        long answer();
-    }
-
-    private static final long INDEX = Long.MIN_VALUE;
-    private static final long ARGUMENT = Long.MIN_VALUE + 1;
-    private static final long STATE = Long.MIN_VALUE + 2;
-    private static final long ELEMENT = Long.MIN_VALUE + 3;
-    private static final long UNSUPPORTED = Long.MIN_VALUE + 4;
-    private static final int NONE = StillLoops.NONE;
-    private static final String LAG = "loop lag gain 256 tau 0 low -100 high 100";
-
-    private static int checks = 0;
-    private static int wrong = 0;
-    private static int promise = 0;
-
+public final class PromisesTest extends Checks {
     public static void main(String[] args) {
         newObject();
         feed();
@@ -68,70 +48,7 @@ public final class PromisesTest {
         imageAndBack();
         toldAnew();
         count();
-        System.out.println(checks + " checks of promises, " + wrong + " of them wrong");
-        System.exit(wrong > 0 ? 1 : 0);
-    }
-
-    private static void due(String what, long want, Call call) {
-        checks++;
-        long got;
-        try {
-            got = call.answer();
-        } catch (RuntimeException e) {
-            got = codeOf(e);
-        }
-        if (got != want) {
-            wrong++;
-            System.out.println("promise " + promise + ", " + what + ": answered " + got + ", due is " + want);
-        }
-    }
-
-    private static long codeOf(RuntimeException e) {
-        if (e.getClass() == IndexOutOfBoundsException.class) {
-            return INDEX;
-        }
-        if (e.getClass() == IllegalArgumentException.class) {
-            return ARGUMENT;
-        }
-        if (e.getClass() == IllegalStateException.class) {
-            return STATE;
-        }
-        if (e.getClass() == NoSuchElementException.class) {
-            return ELEMENT;
-        }
-        if (e.getClass() == UnsupportedOperationException.class) {
-            return UNSUPPORTED;
-        }
-        throw e;
-    }
-
-    private static long bit(boolean is) {
-        return is ? 1 : 0;
-    }
-
-    private static void tape(StillLoops x, String text) {
-        byte[] bytes = text.getBytes(StandardCharsets.ISO_8859_1);
-        int[] words = new int[(bytes.length + 19) / 20 * 5];
-        for (int k = 0; k < bytes.length; k++) {
-            words[k / 4] |= (bytes[k] & 255) << 24 - 8 * (k % 4);
-        }
-        for (int k = 0; k < words.length; k += 5) {
-            x.feed(words[k], words[k + 1], words[k + 2], words[k + 3], words[k + 4]);
-        }
-        x.end(bytes.length);
-    }
-
-    private static void tell(StillLoops x, String... texts) {
-        for (String text : texts) {
-            tape(x, text);
-            x.bench();
-        }
-    }
-
-    private static StillLoops told(String... texts) {
-        StillLoops x = new StillLoops();
-        tell(x, texts);
-        return x;
+        finish("checks of promises");
     }
 
     private static void newObject() {
@@ -253,14 +170,6 @@ public final class PromisesTest {
         due("its fault", 0, x::fault);
         due("right again", UNSUPPORTED, x::bench);
         due("and read without a fault", NONE, x::fault);
-    }
-
-    private static void faultAt(StillLoops x, String text, int where) {
-        due("'" + text + "'", where == NONE ? x.count(1) + 1 : ARGUMENT, () -> {
-            tape(x, text);
-            return x.bench();
-        });
-        due("fault of '" + text + "'", where, x::fault);
     }
 
     private static void fault() {
