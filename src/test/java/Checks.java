@@ -94,4 +94,63 @@ abstract class Checks {
         });
         due("fault of '" + text + "'", where, x::fault);
     }
+
+    /** All that can be asked of an object, in some 300 calls; it stays as it was. */
+    static String seen(StillLoops x) {
+        StringBuilder all = new StringBuilder("fault " + x.fault() + " counts");
+        for (int what = 0; what <= 4; what++) {
+            all.append(' ').append(x.count(what));
+        }
+        for (int what = 0; what <= 8; what++) {
+            all.append(" which ").append(x.which(what));
+        }
+        for (int k = 0; k < x.count(3); k++) {
+            for (int what = 0; what <= 3; what++) {
+                all.append(" event ").append(x.event(k, what));
+            }
+        }
+        for (int ago = 0; ago < Math.min(8, x.count(4)); ago++) {
+            for (int what = 0; what <= 3; what++) {
+                all.append(" log ").append(x.log(ago, what));
+            }
+        }
+        for (int k = 0; k < x.count(0); k++) {
+            all.append(seenOf(x, k));
+        }
+        return all.toString();
+    }
+
+    private static String seenOf(StillLoops x, int k) {
+        StringBuilder all = new StringBuilder("; loop");
+        for (int what = 0; what <= 20; what++) {
+            all.append(' ').append(x.loop(k, what));
+        }
+        for (int what = 0; what <= 5; what++) {
+            all.append(" inner ").append(x.inner(k, what)).append(" weight ").append(x.weight(k, what));
+        }
+        for (int set = 0; set < x.loop(k, 14); set++) {
+            for (int what = 0; what <= 3; what++) {
+                all.append(" gain ").append(x.gain(k, set, what));
+            }
+        }
+        for (int trip = 0; trip <= 3; trip++) {
+            all.append(" trip ").append(x.trip(k, trip)).append(' ').append(x.whose(k, trip));
+        }
+        // FEEDS, CURVE and what a RELAY test has show in what is ahead.
+        return all.append(" ahead ").append(x.ahead(k, 9, false)).append(' ').append(x.ahead(k, 60, true)).toString();
+    }
+
+    static void same(String what, String want, String got) {
+        checks++;
+        if (!want.equals(got)) {
+            wrong++;
+            System.out.println("promise " + promise + ", " + what + ": is now\n  " + got + "\nand was\n  " + want);
+        }
+    }
+
+    static void ticks(StillLoops x, int n) {
+        for (int left = n; left > 0; left -= 60) {
+            x.ticks(Math.min(60, left));
+        }
+    }
 }
