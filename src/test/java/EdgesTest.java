@@ -32,6 +32,7 @@ public final class EdgesTest extends Checks {
         relayAges();
         relayUps();
         relayKu();
+        relayInImages();
         tuned();
         logRows();
         logOfSixty();
@@ -43,13 +44,25 @@ public final class EdgesTest extends Checks {
         aheads();
         rounds();
         roundsOfTwo();
+        roundsByLate();
+        longRounds();
+        roundsOfTwoHundred();
+        sweepFromNow();
         starts();
+        startsByLate();
         startsAtTheBounds();
+        startsByTrips();
+        startsByTests();
         steps();
         stepsToHundred();
         twins();
+        twinsOfLaws();
+        twinsOfPlants();
+        twinsOfValves();
+        twinsOfMany();
         rooms();
         images();
+        toldAnew();
         whiches();
         finish("checks of edges");
     }
@@ -335,7 +348,7 @@ public final class EdgesTest extends Checks {
     /** LOOP 0 in AUTO leads LOOP 1 in CASCADE, whose AT is told by its SP: above 5, below - 5, or neither. */
     private static StillLoops led() {
         StillLoops x = told("loop lag gain 0 tau 0 low -50 high 50;loop lag gain 0 tau 0 low -5 high 5 on 0",
-                "gains 0 kp 0 ki 16 kd 0;law 0 back 0;gains 1 kp 256 ki 0 kd 0;law 1 back 0");
+                "gains 0 kp 0 ki 1 kd 0;law 0 back 0;gains 1 kp 256 ki 0 kd 0;law 1 back 0");
         x.mode(1, 1);
         x.mode(1, 2);
         return x;
@@ -343,7 +356,8 @@ public final class EdgesTest extends Checks {
 
     private static void held() {
         promise = 13;
-        int[][] row = {{0, 1, 16}, {0, -1, -16}, {6, 1, 0}, {6, -1, -16}, {-6, 1, 16}, {-6, -1, 0}, {5, 1, 16}, {-5, -1, -16}};
+        int[][] row = {{0, 1, 1}, {0, -1, -1}, {6, 1, 0}, {6, -1, -1}, {-6, 1, 1}, {-6, -1, 0}, {5, 1, 1}, {-5, -1, -1},
+            {6, 0, 0}, {-6, 0, 0}, {6, 9999, 0}, {6, -9999, -9999}, {-6, 9999, 9999}, {-6, -9999, 0}};
         for (int[] one : row) {
             StillLoops x = led();
             x.out(0, one[0]);
@@ -772,6 +786,17 @@ public final class EdgesTest extends Checks {
         y.relay(0, 1, 0);
         swing(y, 4);
         due("59244544 by (355 times 34)", 4908, () -> y.loop(0, 18));
+        StillLoops w = told("loop lag gain 20 tau 0 low -300 high 300");
+        w.relay(0, 245, 0);
+        for (int n = 0; n < 4; n++) {
+            w.load(0, -1);
+            w.set(0, -99);
+            w.ticks(1);
+            w.load(0, 1);
+            w.set(0, 99);
+            w.ticks(1);
+        }
+        due("59244544 times 245 by (355 times 10312) is 3964.99997", 3964, () -> w.loop(0, 18));
         StillLoops z = told("loop lag gain 999 tau 0 low -10 high 10");
         z.relay(0, 1, 0);
         for (int n = 0; n < 4; n++) {
@@ -787,6 +812,45 @@ public final class EdgesTest extends Checks {
         promise = 21;
         due("KU 0 is one", 0, () -> z.tune(0, 0));
         due("KI 0", 0, () -> z.gain(0, 0, 2));
+    }
+
+    private static StillLoops inTest() {
+        StillLoops x = told("loop level gain 256 tau 0 low -10 high 10 late 2");
+        x.relay(0, 5, 2);
+        return x;
+    }
+
+    /** What a test has is in THE IMAGE, however far it is, and whatever another test had in between. */
+    private static void relayInImages() {
+        promise = 36;
+        StillLoops whole = inTest();
+        int age = 0;
+        while (whole.loop(0, 8) == 3 && age < 240) {
+            whole.ticks(1);
+            age++;
+        }
+        int last = age;
+        due("with KU", 1, () -> bit(whole.loop(0, 18) > 0 && whole.loop(0, 18) < 9999));
+        due("in time", 1, () -> bit(last < 100));
+        for (int k = 1; k < age; k++) {
+            StillLoops x = inTest();
+            ticks(x, k);
+            x.image();
+            x.mode(0, 0);
+            x.out(0, k % 2 == 0 ? 9 : -9);
+            x.ticks(30);
+            x.set(0, k % 2 == 0 ? -9999 : 9999);
+            x.relay(0, 1, 9);
+            x.ticks(4);
+            x.back();
+            ticks(x, age - k - 1);
+            due("it goes on, from " + k, 3, () -> x.loop(0, 8));
+            x.ticks(1);
+            due("KU from " + k, whole.loop(0, 18), () -> x.loop(0, 18));
+            due("TU from " + k, whole.loop(0, 19), () -> x.loop(0, 19));
+            due("OUT from " + k, 0, () -> x.loop(0, 11));
+            due("Y from " + k, whole.inner(0, 0), () -> x.inner(0, 0));
+        }
     }
 
     private static StillLoops withTu(int tu) {
@@ -1097,6 +1161,191 @@ public final class EdgesTest extends Checks {
         due("N", 2, () -> x.round(true));
     }
 
+    /** PV is LOAD less what PV was LATE and 1 TICKS before: so many TICKS of 0 and as many of 3, for ever. */
+    private static String swinging(int loop, int late) {
+        return "loop lag gain 256 tau 0 low -10 high 10 late " + late + ";gains " + loop + " kp 256 ki 0 kd 0;law " + loop
+                + " filter 0 back 0";
+    }
+
+    private static void roundsByLate() {
+        for (int late = 0; late <= 8; late++) {
+            StillLoops x = told(swinging(0, late));
+            x.mode(0, 1);
+            x.load(0, 3);
+            promise = 23;
+            // OUT is 0 up to TICK 1, as it is in the round for LATE TICKS ahead of that; nine FEEDS must be so.
+            due("M by LATE " + late, 9 - late, () -> x.round(false));
+            due("N by LATE " + late, 2 * late + 2, () -> x.round(true));
+            promise = 24;
+            due("SWEEP by LATE " + late, 3, () -> x.sweep(0));
+            for (int n = 1; n <= 12; n++) {
+                x.ticks(1);
+                int m = Math.max(0, 9 - late - n);
+                int l = late;
+                promise = 23;
+                due("M later, by LATE " + late, m, () -> x.round(false));
+                due("N later, by LATE " + late, 2 * l + 2, () -> x.round(true));
+                promise = 24;
+                due("SWEEP later, by LATE " + late, 3, () -> x.sweep(0));
+            }
+        }
+    }
+
+    /** Rounds of 4, 10 and 18 together: 180. */
+    private static StillLoops threeSwing(int first, int second, int third) {
+        StillLoops x = told(swinging(0, first) + ";" + swinging(1, second) + ";" + swinging(2, third));
+        for (int k = 0; k < 3; k++) {
+            x.mode(k, 1);
+            x.load(k, 3);
+        }
+        return x;
+    }
+
+    private static void longRounds() {
+        promise = 23;
+        StillLoops x = threeSwing(1, 4, 8);
+        due("M: of LATE 1", 8, () -> x.round(false));
+        due("N", 180, () -> x.round(true));
+        StillLoops y = threeSwing(0, 7, 8);
+        due("M: of LATE 0", 9, () -> y.round(false));
+        due("N of 2, 16 and 18", 144, () -> y.round(true));
+        StillLoops z = threeSwing(2, 4, 6);
+        due("6, 10 and 14 are 210: none", NONE, () -> z.round(true));
+        due("6, 10 and 14 are 210: none", NONE, () -> z.round(false));
+        promise = 24;
+        due("SWEEP of a long one", 3, () -> x.sweep(2));
+        due("SWEEP of none", NONE, () -> z.sweep(2));
+        promise = 25;
+        due("nine of 180", 180, () -> x.starts(0, 4));
+        due("nine", 9, () -> x.starts(0, 1));
+        due("none at all", 9, () -> z.starts(0, 2));
+        // A level that is full AHEAD 18 or 19, and still two TICKS later.
+        long[][] want = {{570, 20, 180}, {540, NONE, NONE}};
+        for (long[] one : want) {
+            StillLoops w = threeSwing(1, 4, 8);
+            tell(w, "loop level gain 256 tau 0 low 0 high 999;law 3 filter 0");
+            w.out(3, (int) one[0]);
+            promise = 23;
+            due("M, filled by " + one[0], one[1], () -> w.round(false));
+            due("N, filled by " + one[0], one[2], () -> w.round(true));
+            promise = 24;
+            due("SWEEP, filled by " + one[0], one[1] == NONE ? NONE : 3, () -> w.sweep(1));
+            promise = 25;
+            due("greatest N, filled by " + one[0], one[1] == NONE ? 0 : 180, () -> w.starts(1, 4));
+        }
+    }
+
+    /**
+     * OUT is 0 or 1 and PV 0 or so much, so that I goes up by SP or down by what is left, and is back where it was
+     * behind as many TICKS as PV is much, where the two have no divisor. LOOP 1 waits beside it.
+     */
+    private static StillLoops dithering(int much, int sp) {
+        StillLoops x = told("loop lag gain 256 tau 0 low 0 high 1;curve 0 0 " + much
+                + ";gains 0 kp 0 ki 128 kd 0;law 0 filter 0 back 0;" + STILL);
+        x.mode(0, 1);
+        x.set(0, sp);
+        ticks(x, 600);
+        return x;
+    }
+
+    private static void roundsOfTwoHundred() {
+        long[][] want = {{199, 99, 0, 199}, {200, 99, 0, 200}, {201, 100, NONE, NONE}, {202, 100, 0, 101}};
+        for (long[] one : want) {
+            StillLoops x = dithering((int) one[0], (int) one[1]);
+            promise = 23;
+            due("M by " + one[0], one[2], () -> x.round(false));
+            due("N by " + one[0], one[3], () -> x.round(true));
+            promise = 24;
+            due("SWEEP by " + one[0], one[3] == NONE ? NONE : one[0], () -> x.sweep(0));
+            // I of LOOP 1 needs one TICK now.
+            x.set(1, 5);
+            promise = 23;
+            boolean any = one[3] != NONE && one[3] < 200;
+            due("M by " + one[0] + " and 1 more", any ? 1 : NONE, () -> x.round(false));
+            due("N by " + one[0] + " and 1 more", any ? one[3] : NONE, () -> x.round(true));
+            promise = 24;
+            due("SWEEP by " + one[0] + " and 1 more", any ? one[0] : NONE, () -> x.sweep(0));
+        }
+    }
+
+    /** Y of 255 is a PV of 0 and rests; one more would swing. */
+    private static void sweepFromNow() {
+        promise = 24;
+        StillLoops x = told("loop level gain 51 tau 0 low -10 high 10;gains 0 kp 2560 ki 0 kd 0;law 0 filter 0 back 0");
+        x.out(0, 5);
+        x.ticks(1);
+        x.out(0, 0);
+        x.ticks(10);
+        x.mode(0, 1);
+        due("Y", 255, () -> x.inner(0, 0));
+        due("rests", 0, () -> x.sweep(0));
+        promise = 23;
+        due("rests", 1, () -> x.round(true));
+        due("now", 0, () -> x.round(false));
+    }
+
+    private static void startsByLate() {
+        promise = 25;
+        // s, 3 - s: those of s and of 3 - s are one. And s, 3, 3 - s, 0: those of 0 and of 3 alone.
+        long[][] want = {{0, 0, 9, 0, 6, 2}, {1, 0, 9, 0, 8, 4}};
+        for (long[] one : want) {
+            StillLoops x = told(swinging(0, (int) one[0]));
+            x.mode(0, 1);
+            x.load(0, 3);
+            for (int time = 0; time < 2; time++) {
+                for (int what = 0; what <= 4; what++) {
+                    int w = what;
+                    due("LATE " + one[0] + ", what " + what, one[what + 1], () -> x.starts(0, w));
+                }
+                x.ticks(20);
+            }
+        }
+    }
+
+    /** TRIPS count: the two LOOPS come to the same but for what they tripped by. */
+    private static void startsByTrips() {
+        promise = 25;
+        StillLoops x = told("loop lag gain 0 tau 0 low 0 high 10;loop lag gain 0 tau 0 low 0 high 10 on 0;"
+                + "gains 0 kp 256 ki 0 kd 0;gains 1 kp 256 ki 0 kd 0;law 0 filter 0 back 0;law 1 filter 0 back 0",
+                swinging(2, 0));
+        x.mode(2, 1);
+        x.load(2, 3);
+        x.out(0, 5);
+        x.out(1, 10);
+        x.mode(1, 2);
+        x.out(0, 10);
+        x.mode(0, 1);
+        x.set(0, 1);
+        // LOOP 1 is above HIGH from the first TICK on; LOOP 0 too, but with a PV of 1 or more from the second one on:
+        // then LOOP 1 trips by itself, a TICK ahead, else with LOOP 0.
+        due("all go round", 9, () -> x.starts(0, 1));
+        due("by 2", 2, () -> x.starts(0, 4));
+        due("with LOOP 0 or by itself", 2, () -> x.starts(0, 3));
+        ticks(x, 60);
+        due("LOOP 0", 2, () -> x.trip(0, 0));
+        due("LOOP 1", 1, () -> x.trip(1, 0));
+        due("LOOP 1", 2, () -> x.trip(1, 1));
+        due("all is over: one", 1, () -> x.starts(0, 3));
+    }
+
+    /** KU and TU count: a test ends in the first TICK, or in the second one, by a SWING of 256 times the start. */
+    private static void startsByTests() {
+        promise = 25;
+        long[][] want = {{5, 5}, {1, 9}};
+        for (long[] one : want) {
+            StillLoops x = told(STILL + ";law 0 filter 0", swinging(1, 0));
+            x.mode(1, 1);
+            x.load(1, 3);
+            x.relay(0, 2, 0);
+            swing(x, 3);
+            x.set(0, -5);
+            x.ticks(1);
+            x.set(0, (int) one[0]);
+            due("all go round", 9, () -> x.starts(0, 1));
+            due("unlike by KU or TU", one[1], () -> x.starts(0, 3));
+        }
+    }
+
     private static void starts() {
         promise = 25;
         StillLoops x = told("loop lag gain 256 tau 0 low -10 high 10;gains 0 kp 256 ki 0 kd 0;law 0 filter 0 back 0");
@@ -1229,6 +1478,153 @@ public final class EdgesTest extends Checks {
         due("there nothing trips", 0, () -> w.twin(60));
     }
 
+    /** Where nothing is rounded the twin goes the same way. */
+    private static void together(String what, StillLoops x, int n) {
+        due(what + ": all is exact", 0, () -> x.twin(n));
+        due(what + ": something moves", 1, () -> {
+            for (int k = 0; k < x.count(0); k++) {
+                for (int t = 1; t <= n; t++) {
+                    if (x.ahead(k, t, false) != x.loop(k, 10)) {
+                        return 1;
+                    }
+                }
+            }
+            return 0;
+        });
+    }
+
+    private static void twinsOfLaws() {
+        promise = 27;
+        String wide = "loop lag gain 256 tau 0 low -9999 high 9999;";
+        StillLoops all = told(wide + "gains 0 kp 256 ki 8192 kd 256;law 0 c 128 filter 0 back 256");
+        all.mode(0, 1);
+        all.set(0, 4096);
+        // E is 4096 by 8, and so on: exact four times.
+        together("P, I and D", all, 4);
+        all.ticks(1);
+        together("P, I and D, from a TICK later", all, 3);
+        StillLoops b = told(wide + "gains 0 kp 128 ki 0 kd 0;law 0 b 64 filter 0");
+        b.mode(0, 1);
+        b.set(0, 8192);
+        together("B", b, 8);
+        StillLoops rate = told(wide + "gains 0 kp 0 ki 0 kd 256;law 0 c 256 filter 1");
+        rate.mode(0, 1);
+        rate.set(0, 4096);
+        together("D by a FILTER", rate, 12);
+        rate.ticks(3);
+        together("D by a FILTER, later", rate, 9);
+        StillLoops back = told("loop lag gain 256 tau 0 low -1024 high 1024;gains 0 kp 256 ki 0 kd 0;law 0 filter 0 back 256");
+        back.mode(0, 1);
+        back.set(0, 4096);
+        together("BACK", back, 40);
+        back.set(0, -4096);
+        together("BACK, below", back, 40);
+        StillLoops hand = told(wide + "gains 0 kp 999 ki 999 kd 999");
+        hand.out(0, 77);
+        together("MANUAL", hand, 60);
+        StillLoops sets = told(wide + "gains 0 kp 256 ki 0 kd 0;gains 0 from 4 kp 0 ki 0 kd 0;law 0 filter 0");
+        sets.mode(0, 1);
+        sets.set(0, 8);
+        // Here PV of 8 changes the SET, which holds OUT; there it stays, and PV goes 8, 0, 8, 0 ..
+        due("the SET stays as it is", 0, () -> sets.twin(1));
+        due("the SET stays as it is", 0, () -> sets.twin(2));
+        due("without a bump in I", 8000, () -> {
+            sets.ticks(1);
+            return sets.twin(2);
+        });
+    }
+
+    private static void twinsOfPlants() {
+        promise = 27;
+        for (String kind : new String[] {"lag", "level", "slow"}) {
+            StillLoops x = told("loop " + kind + " gain 256 tau 1 low -9999 high 9999");
+            x.out(0, kind.equals("level") ? 16 : 4096);
+            together(kind, x, 12);
+            x.load(0, kind.equals("level") ? -4 : -512);
+            together(kind + " with LOAD", x, 12);
+            x.ticks(3);
+            together(kind + ", later", x, 9);
+            x.out(0, 0);
+            together(kind + ", back again", x, 8);
+        }
+        for (int late : new int[] {0, 1, 7, 8}) {
+            StillLoops x = told("loop lag gain 256 tau 0 low -99 high 99 late " + late);
+            for (int n = 1; n <= 9; n++) {
+                x.out(0, n * n);
+                x.ticks(1);
+            }
+            x.out(0, -5);
+            together("LATE " + late, x, 20);
+        }
+        for (int sign = -1; sign <= 1; sign += 2) {
+            StillLoops x = told("loop level gain 999 tau 0 low -9999 high 9999");
+            x.out(0, 9999 * sign);
+            together("to the bound of Y", x, 3);
+            x.ticks(1);
+            x.out(0, -sign);
+            together("and off it", x, 3);
+        }
+    }
+
+    private static void twinsOfValves() {
+        promise = 27;
+        for (int sign = -1; sign <= 1; sign += 2) {
+            StillLoops x = told("loop lag gain 256 tau 0 low -99 high 99;law 0 stick 3");
+            x.out(0, 5 * sign);
+            together("moved", x, 5);
+            x.ticks(1);
+            x.out(0, 2 * sign);
+            due("3 off: sticks in both", 0, () -> x.twin(5));
+            x.out(0, 8 * sign);
+            due("3 off, the other way", 0, () -> x.twin(5));
+            x.out(0, sign);
+            together("4 off", x, 5);
+            x.out(0, 9 * sign);
+            together("4 off, the other way", x, 5);
+        }
+        StillLoops two = told("loop lag gain 256 tau 0 low 0 high 1;curve 0 5 9");
+        together("two numbers at LOW", two, 2);
+        two.ticks(1);
+        two.out(0, 1);
+        together("two numbers at HIGH", two, 2);
+        StillLoops many = told("loop lag gain 256 tau 0 low -70 high 70;curve 0 0 100 50 800 999 0 7 70");
+        int was = 0;
+        for (int p = -70; p <= 70; p += 10) {
+            many.out(0, p);
+            due("at " + p, many.flow(0, p) == was ? 0 : 1, () -> bit(many.ahead(0, 1, false) != many.loop(0, 10)));
+            // Half way between 800 and 999, 999 and 0, 0 and 7, 7 and 70 a half is rounded away here.
+            due("a CURVE at " + p, p >= 0 && p % 20 == 0 ? 500 : 0, () -> many.twin(3));
+            many.ticks(1);
+            was = many.flow(0, p);
+        }
+    }
+
+    private static void twinsOfMany() {
+        promise = 27;
+        String plain = "loop lag gain 256 tau 0 low -80 high 80";
+        StillLoops x = told(plain + ";" + plain + " on 0;" + plain + " on 0",
+                "gains 0 kp 256 ki 0 kd 0;gains 1 kp 256 ki 0 kd 0;gains 2 kp 256 ki 0 kd 0;law 0 filter 0;law 1 filter 0;law 2 filter 0");
+        x.out(1, 12);
+        x.out(2, 40);
+        together("the feed is PV of the least", x, 20);
+        x.ticks(5);
+        x.set(1, 9);
+        x.set(2, 4);
+        x.mode(1, 1);
+        x.set(1, 24);
+        x.mode(2, 1);
+        x.out(0, 60);
+        together("AUTO ON one: its own SP", x, 20);
+        x.mode(0, 1);
+        together("FOLLOWING", x, 20);
+        x.mode(2, 2);
+        x.set(0, 64);
+        together("CASCADE beside AUTO", x, 5);
+        x.mode(1, 2);
+        x.set(0, -64);
+        together("both in CASCADE", x, 5);
+    }
+
     private static void rooms() {
         promise = 7;
         StillLoops x = told(LAG + ";gains 0 kp 0 ki 9999 kd 0");
@@ -1291,6 +1687,24 @@ public final class EdgesTest extends Checks {
             tape(y, "at 7 lost 0");
             return y.bench();
         });
+    }
+
+    /** A LOOP that was gone back behind at its limit, told anew: nothing of that is left. */
+    private static void toldAnew() {
+        promise = 36;
+        StillLoops x = new StillLoops();
+        x.image();
+        tell(x, STILL + ";gains 0 kp 256 ki 0 kd 0;law 0 back 0");
+        x.mode(0, 1);
+        x.set(0, 11);
+        x.ticks(5);
+        tell(x, "law 0");
+        due("STUCK", 5, () -> x.loop(0, 16));
+        due("a ROUND is looked for", 1, () -> x.round(true));
+        tell(x, "law 0");
+        x.back();
+        tell(x, STILL);
+        same("as a new one", seen(told(STILL)), seen(x));
     }
 
     private static void whiches() {

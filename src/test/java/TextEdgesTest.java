@@ -23,6 +23,7 @@ public final class TextEdgesTest extends Checks {
         words();
         signs();
         moreMustCome();
+        fullTape();
         nothingStays();
         firstValues();
         faultsOneBehindAnother();
@@ -509,6 +510,25 @@ public final class TextEdgesTest extends Checks {
         refused("at 1 mode 1 cascades", 12);
     }
 
+    /** Texts that fill the TAPE to its last byte. */
+    private static void fullTape() {
+        promise = 4;
+        String[] whole = {SMALL + " on 1", "law 0 b 7", "law 0", "gains 0 kp 1 ki 1 kd 9999", "curve 0 1 2", "at 5 set 0 -9999",
+            "at 5 mode 1 cascade", "at 5 lost 0"};
+        for (String text : whole) {
+            laid(" ".repeat(400 - text.length()) + text, 0, x -> 0);
+            laid(text + " ".repeat(400 - text.length()), 0, x -> 0);
+            refused(" ".repeat(399 - text.length()) + text + ";", 400);
+            refused(" ".repeat(399 - text.length()) + text + "-", 399);
+        }
+        refused(" ".repeat(389) + "law 0 b 257", 397);
+        refused(" ".repeat(387) + "law 0 b 25600", 395);
+        refused(" ".repeat(397) + "law", 400);
+        refused(" ".repeat(398) + "la", 398);
+        refused(" ".repeat(399) + ";", 399);
+        refused(" ".repeat(399) + "-", 399);
+    }
+
     private static void signs() {
         promise = 5;
         refused("at 5 set 0 -99999", 11);
@@ -537,6 +557,7 @@ public final class TextEdgesTest extends Checks {
                 refused(text, 0);
                 continue;
             }
+            refused(" ".repeat(400 - text.length()) + text, 400);
             refused(text, text.length());
             refused("law 0 ;" + text, 7 + text.length());
             if (text.endsWith("-")) {
