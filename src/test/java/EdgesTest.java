@@ -236,6 +236,16 @@ public final class EdgesTest extends Checks {
                 due("whose " + n + " of " + k, trips[k][n] == NONE ? NONE : k - n, () -> x.whose(loop, which));
             }
         }
+        x.image();
+        x.lose(3, true);
+        x.mode(3, 1);
+        x.ticks(1);
+        promise = 36;
+        due("another trip", 0, () -> x.trip(3, 0));
+        x.back();
+        due("those of THE IMAGE", 1, () -> x.trip(3, 0));
+        due("those of THE IMAGE", 1, () -> x.trip(3, 1));
+        due("those of THE IMAGE", 0, () -> x.trip(3, 2));
         x.ticks(1);
         promise = 10;
         due("they stay in later TICKS", 0, () -> x.trip(3, 2));
@@ -773,6 +783,16 @@ public final class EdgesTest extends Checks {
         due("three UPS", 3, () -> y.loop(0, 8));
         swing(y, 1);
         due("four", 0, () -> y.loop(0, 8));
+        // UPS of a test that was broken off do not count for the next one.
+        StillLoops z = told(STILL);
+        z.relay(0, 2, 0);
+        swing(z, 3);
+        z.mode(0, 0);
+        z.relay(0, 2, 0);
+        swing(z, 3);
+        due("three UPS of its own", 3, () -> z.loop(0, 8));
+        swing(z, 1);
+        due("the 4th", 0, () -> z.loop(0, 8));
     }
 
     private static void relayKu() {
@@ -1127,6 +1147,20 @@ public final class EdgesTest extends Checks {
         due("M and N 199: M", 198, () -> w.round(false));
         promise = 24;
         due("SWEEP of a rest", 0, () -> w.sweep(0));
+        promise = 23;
+        StillLoops v = told(STILL);
+        v.out(0, 5);
+        v.ticks(12);
+        due("at rest", 0, () -> v.round(false));
+        tell(v, "curve 0 3 9");
+        due("by a CURVE all nine FEEDS change", 9, () -> v.round(false));
+        due("and rest", 1, () -> v.round(true));
+        v.ticks(1);
+        due("eight are left", 8, () -> v.round(false));
+        v.ticks(7);
+        due("one is left", 1, () -> v.round(false));
+        v.ticks(1);
+        due("none", 0, () -> v.round(false));
     }
 
     /** A level that is full AHEAD 195 or later, beside a LOOP that goes round by 2. */
@@ -1503,6 +1537,12 @@ public final class EdgesTest extends Checks {
         together("P, I and D", all, 4);
         all.ticks(1);
         together("P, I and D, from a TICK later", all, 3);
+        StillLoops i = told(wide + "gains 0 kp 0 ki 8192 kd 0");
+        i.mode(0, 1);
+        i.set(0, 4096);
+        together("I alone", i, 9);
+        i.set(0, -4096);
+        together("I alone, below", i, 9);
         StillLoops b = told(wide + "gains 0 kp 128 ki 0 kd 0;law 0 b 64 filter 0");
         b.mode(0, 1);
         b.set(0, 8192);
@@ -1569,6 +1609,12 @@ public final class EdgesTest extends Checks {
     private static void twinsOfValves() {
         promise = 27;
         for (int sign = -1; sign <= 1; sign += 2) {
+            StillLoops stuck = told("loop lag gain 256 tau 0 low -99 high 99;law 0 stick 3");
+            stuck.out(0, 5 * sign);
+            stuck.ticks(1);
+            stuck.out(0, 2 * sign);
+            stuck.load(0, 1);
+            together("it begins as POS", stuck, 5);
             StillLoops x = told("loop lag gain 256 tau 0 low -99 high 99;law 0 stick 3");
             x.out(0, 5 * sign);
             together("moved", x, 5);
