@@ -50,6 +50,7 @@ public final class LanguageTest {
         face();
         inside();
         methods(code);
+        makings(code);
         System.out.println("the rules that can be seen: " + wrong + " broken");
         System.exit(wrong > 0 ? 1 : 0);
     }
@@ -115,5 +116,16 @@ public final class LanguageTest {
             check(lines <= 60, "a method of " + lines + " lines: " + m.group().strip().split("\n")[0]);
         }
         check(seen > 100, "only " + seen + " methods were seen");
+    }
+
+    /** Rule 12, as this class keeps it: all is made by constructors and as fields' first values, nothing by calls. */
+    private static void makings(String code) {
+        String calls = code.replaceAll("(?m)^ {8}[A-Z]\\w*\\([^;{}]*\\{\n(?:(?! {8}\\}).*\n)* {8}\\}", "");
+        for (String line : calls.split("\n")) {
+            boolean makes = line.matches(".*\\bnew\\b.*") || line.matches(".*(\\.clone\\(|copyOf|\\.substring\\(|toCharArray).*");
+            boolean isField = line.matches("( {4}| {8})(private )?final [\\w\\[\\]]+ \\w+ = new .*;");
+            boolean isThrow = line.matches("\\s*(default: )?throw new \\w+Exception\\(\\);");
+            check(!makes || isField || isThrow, "made by a call: " + line.strip());
+        }
     }
 }
