@@ -613,6 +613,23 @@ public final class EdgesTest extends Checks {
         x.mode(2, 1);
         due("LOOPS in RELAY and AUTO ON it", 1, () -> x.which(8));
         due("one in AUTO that none is ON does not follow", 5, () -> x.which(1));
+        // A LOOP at its limit begins to follow without a MODE told of its own: AT and STUCK are 0 by that.
+        for (int sign = -1; sign <= 1; sign += 2) {
+            StillLoops y = led();
+            y.out(0, 50 * sign);
+            y.mode(0, 1);
+            tell(y, "gains 0 kp 256 ki 0 kd 0");
+            y.set(0, sign);
+            y.ticks(5);
+            int at = sign;
+            due("AT its limit", at, () -> y.loop(0, 15));
+            due("STUCK", 5, () -> y.loop(0, 16));
+            y.mode(1, 1);
+            due("AT stays until a TICK", at, () -> y.loop(0, 15));
+            y.ticks(1);
+            due("FOLLOWING: AT 0", 0, () -> y.loop(0, 15));
+            due("FOLLOWING: STUCK 0", 0, () -> y.loop(0, 16));
+        }
     }
 
     private static void flows() {
@@ -1321,7 +1338,7 @@ public final class EdgesTest extends Checks {
     private static void startsByLate() {
         promise = 25;
         // s, 3 - s: those of s and of 3 - s are one. And s, 3, 3 - s, 0: those of 0 and of 3 alone.
-        long[][] want = {{0, 0, 9, 0, 6, 2}, {1, 0, 9, 0, 8, 4}};
+        long[][] want = {{0, 0, 9, 0, 6, 2}, {1, 0, 9, 0, 8, 4}, {8, 0, 9, 0, 8, 18}};
         for (long[] one : want) {
             StillLoops x = told(swinging(0, (int) one[0]));
             x.mode(0, 1);
@@ -1331,7 +1348,7 @@ public final class EdgesTest extends Checks {
                     int w = what;
                     due("LATE " + one[0] + ", what " + what, one[what + 1], () -> x.starts(0, w));
                 }
-                x.ticks(20);
+                x.ticks(36);
             }
         }
     }
